@@ -1,4 +1,5 @@
 import java.util.ArrayList;
+import java.util.Arrays;
 import java.util.List;
 import java.util.NoSuchElementException;
 
@@ -11,6 +12,9 @@ final class Checks {
 
     private static int done = 0;
     private static int wrong = 0;
+    private static int doneBeforeSentence = 0;
+    private static int sentences = 0;
+    private static String sentence = "";
 
     interface Call {
         Object answer();
@@ -19,12 +23,28 @@ final class Checks {
     private Checks() {
     }
 
+    /** What is checked from here on is held by these words of the document. */
+    static void sentence(int promise, String words) {
+        endSentence();
+        sentence = "promise " + promise + ", \"" + words + "\": ";
+        sentences++;
+    }
+
+    private static void endSentence() {
+        if (!sentence.isEmpty() && done == doneBeforeSentence) {
+            wrong++;
+            System.out.println(sentence + "nothing was checked");
+        }
+        doneBeforeSentence = done;
+        sentence = "";
+    }
+
     static void due(String call, Object want, Call got) {
         done++;
         Object answer = answerOf(got);
         if (!want.equals(answer)) {
             wrong++;
-            System.out.println(call + " answered " + answer + ", due is " + want);
+            System.out.println(sentence + call + " answered " + answer + ", due is " + want);
         }
     }
 
@@ -36,6 +56,34 @@ final class Checks {
         }
     }
 
+    static void dueWritten(String want, TermSimplifier t) {
+        due("written", want, () -> writing(t));
+    }
+
+    static void dueCounts(String want, TermSimplifier t) {
+        due("counts", want, () -> countsOf(t));
+    }
+
+    static void dueRan(String want, TermSimplifier t) {
+        due("ran", want, () -> ranOf(t));
+    }
+
+    static void dueConvert(Object want, int... code) {
+        due("convert of " + Arrays.toString(code), want, () -> typed(code).convert());
+    }
+
+    /** Of the code: what a pass answers, and what is written then. */
+    static void duePass(int steps, String written, int... code) {
+        TermSimplifier t = converted(code);
+        due("pass of " + Arrays.toString(code), steps, t::pass);
+        dueWritten(written, t);
+    }
+
+    /** Of the code: how its run ends, and all that the run leaves. */
+    static void dueRun(String want, int... code) {
+        due("run of " + Arrays.toString(code), want, () -> runOf(converted(code)));
+    }
+
     /** A new object whose code is as given. */
     static TermSimplifier typed(int... code) {
         TermSimplifier made = new TermSimplifier();
@@ -45,7 +93,9 @@ final class Checks {
 
     static void type(TermSimplifier t, int... code) {
         for (int n : code) {
-            due("type(" + n + ")", true, () -> t.type(n));
+            if (!t.type(n)) {
+                throw new AssertionError("type(" + n + ") answered false");
+            }
         }
     }
 
@@ -113,7 +163,9 @@ final class Checks {
     }
 
     static void end() {
-        System.out.println((done - wrong) + " answers are as due, " + wrong + " are not");
+        endSentence();
+        String held = sentences == 0 ? "" : " for " + sentences + " sentences of the document";
+        System.out.println((done - wrong) + " answers are as due" + held + ", " + wrong + " are not");
         if (wrong > 0 || done == 0) {
             System.exit(1);
         }
