@@ -1,4 +1,4 @@
-/** Terms that several tests use; what they come to is worked out by hand. */
+/** Terms that several tests use; what they come to is worked out by hand, but for lateAndDeep. */
 final class Samples {
     static final int[] NONE = {};
     static final int[] ZERO = {0, 0};
@@ -49,7 +49,8 @@ final class Samples {
 
     /**
      * Counts n down to 0 in rows 12 deep, and opens one more row then, by what stands for the last. With the number
-     * 90 that would be binding 398 of the run, with 91 it would be 401; the call of a function for n adds 2.
+     * 90 that would be binding 398 of the run, with 91 it would be 401; the call of a function for n adds 2. These
+     * counts were looked for with the class itself, its limit of bindings raised, and Model answers the same.
      */
     static int[] lateAndDeep(int[] n, int... last) {
         int[] step = Checks.code(Checks.of(2, 1, 6, 1, 1, 5, 1, 1, 1, 0, 1), last);
