@@ -234,6 +234,14 @@ final class Model {
         return steps[0] + steps[1] + steps[2] + steps[3] - before;
     }
 
+    int simplify() {
+        int passes = 1;
+        while (pass() > 0) {
+            passes++;
+        }
+        return passes;
+    }
+
     private void pass(Block block) {
         Item item = block.items.isEmpty() ? null : block.items.get(0);
         while (item != null) {
